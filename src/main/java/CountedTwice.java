@@ -1141,11 +1141,11 @@ public final class CountedTwice {
         }
 
         private int kind() {
-            return below(at, kinds.length) ? kinds[at] : TAPE_END;
+            return at >= 0 && at < kinds.length ? kinds[at] : TAPE_END;
         }
 
         private int number() {
-            return below(at, numbers.length) ? numbers[at] : 0;
+            return at >= 0 && at < numbers.length ? numbers[at] : 0;
         }
 
         private void pass(int kind) {
@@ -1163,7 +1163,7 @@ public final class CountedTwice {
         private void refuse(int kind) {
             if (fault == 0) {
                 fault = kind;
-                faultPlace = below(at, places.length) ? places[at] : NONE;
+                faultPlace = at >= 0 && at < places.length ? places[at] : NONE;
             }
         }
 
