@@ -850,7 +850,7 @@ public final class CountedTwice {
         /** What the first line that is so begins with (0 like or home, AWAY), or NONE. */
         int firstLine(int[] values) {
             int top = 0;
-            for (int i = 0; i < length; i++) {
+            for (int i = 0; i < length && i < TAPE_MOST; i++) {
                 int word = words[i];
                 if (word >= LINE_END) {
                     if (stack[0] != 0) {
@@ -1324,7 +1324,7 @@ public final class CountedTwice {
             houses[p] = 0L;
             size++;
             join(p, first);
-            for (int i = 0; i < entries[p]; i++) {
+            for (int i = 0; i < entries[p] && i < ENTRIES_MOST; i++) {
                 for (int e = first + 1; e < world.book.told; e++) {
                     if (ofEntries[e] == NONE && world.book.isKnown(e) && likeness.agree(SAME, queue[i], e)) {
                         join(p, e);
@@ -1430,7 +1430,7 @@ public final class CountedTwice {
             Arrays.fill(comeFrom, NONE);
             queue[0] = open;
             int waiting = 1;
-            for (int i = 0; i < waiting; i++) {
+            for (int i = 0; i < waiting && i < ENTRIES_MOST; i++) {
                 for (int q = 0; q < size; q++) {
                     if (comeFrom[q] == NONE && hasBit(possible, queue[i] * ROW_BITS + q)) {
                         comeFrom[q] = queue[i];
@@ -1557,7 +1557,7 @@ public final class CountedTwice {
             int many = 0;
             for (int e = 0; e < world.book.told && many < ROW_MOST; e++) {
                 if (isBy(e, c, 0)) {
-                    often[world.book.fact(e, Book.AGE) % DIGITS]++;
+                    often[Math.floorMod(world.book.fact(e, Book.AGE), DIGITS)]++;
                     many++;
                 }
             }

@@ -73,6 +73,19 @@ public final class CounterTest {
         Check.due("23: count 1 isn't asked", x.suspect(), -1);
     }
 
+    private static void byDay() {
+        CountedTwice x = town();
+        Check.entry(x, "a", 0, 4, 0, 1, 600, 0);
+        Check.entry(x, "a", 0, 4, 0, 2, 599, 0);
+        Check.entry(x, "a", 0, 4, 1, 1, 601, 0);
+        Check.due("21: the day comes ahead of the minute", x.counter(4, 3), 1);
+        Check.entry(x, "a", 0, 4, 1, 2, 598, 0);
+        Check.due("21: and the minute ahead of the number", x.counter(4, 3), 2);
+        Check.entry(x, "a", 0, 4, 1, 99, 1439, 0);
+        Check.entry(x, "a", 0, 4, 2, 99, 1439, 0);
+        Check.due("21: the last minute of all", x.counter(4, 3), 3);
+    }
+
     /** At one minute the number of the entry says what is just ahead. */
     private static void byNumber() {
         CountedTwice x = town();
@@ -87,6 +100,13 @@ public final class CounterTest {
         Check.due("21: void ones aren't ahead", x.counter(0, 3), 0);
         x.view(3);
         Check.due("21: as known then", x.counter(0, 3), 1);
+        Check.due("23: counter 0", x.suspect(), 0);
+        x = town();
+        Check.entry(x, "a", 0, 10, 0, 1, 95, 0);
+        Check.entry(x, "a", 0, 10, 0, 1, 100, 0);
+        Check.entry(x, "a", 0, 10, 1, 1, 100, 0);
+        Check.due("21: 0, 0, 1 and not 0, 1, 0", x.counter(10, 3), 1);
+        Check.due("23: counter 10", x.suspect(), 10);
     }
 
     private static void together() {
@@ -110,6 +130,7 @@ public final class CounterTest {
     public static void main(String[] args) {
         entriesAndGhosts();
         quick();
+        byDay();
         byNumber();
         together();
         Check.close("CounterTest");

@@ -58,7 +58,7 @@ public final class ImageTest {
         x.state(5);
         x.house(2, 0, 0);
         x.gap(0, 1, 31);
-        x.set(0, 51);
+        x.set(0, 90);
         x.set(1, 8);
         Check.text(x, 0, "");
         Check.text(x, 1, "like when letters=0;");
@@ -110,12 +110,47 @@ public final class ImageTest {
         Check.due("32: same", x.alike(0, 1, 0), 1);
         Check.due("32: one person", x.look(5), 1);
         x.image(false);
+        Check.due("32: the persons of then", x.look(5), 1);
+        Check.due("32: with one entry", x.person(0, 0), 1);
         Check.due("32: gone", x.alike(0, 1, 0), -1);
         Check.entry(x, "ann", 1, 0, 0, 0, 0, 0);
         Check.due("32: not the same", x.alike(0, 1, 0), 0);
         Check.due("32: maybe", x.alike(0, 1, 1), 1);
         Check.due("32: two persons", x.look(5), 2);
         Check.due("32: or one", x.ends(0), 1);
+    }
+
+    private static void voidsComeBack() {
+        CountedTwice x = new CountedTwice();
+        x.house(0, 0, 0);
+        Check.entry(x, "ana", 0, 0, 0, 0, 0, 0);
+        x.image(true);
+        x.voids(0);
+        Check.due("32: void", x.look(5), 0);
+        x.image(false);
+        Check.due("32: known again", x.of(0, 7), 1);
+        Check.due("32: a person again", x.look(5), 1);
+        Check.due("32: void once more", x.voids(0), true);
+    }
+
+    private static void roundComesBack() {
+        CountedTwice x = new CountedTwice();
+        x.house(10, 0, 3);
+        x.house(11, 0, 4);
+        x.gap(10, 11, 500);
+        Check.text(x, 2, "away when kind=4;");
+        x.step(0, 0, 100);
+        x.step(1, 0, 200);
+        x.image(true);
+        Check.due("32: none is wrong", x.round(0, 0), -1);
+        x.step(0, 1, 100);
+        x.step(1, 0, 104);
+        x.gap(11, 10, 7);
+        Check.due("32: the first is wrong", x.round(0, 0), 0);
+        x.image(false);
+        Check.due("32: none is wrong again", x.round(0, 0), -1);
+        Check.due("32: one house is seen", x.round(0, 1), 1);
+        Check.due("32: the gap is back", x.way(0, 1, 0), 500);
     }
 
     private static void planAndClosed() {
@@ -140,6 +175,22 @@ public final class ImageTest {
         x.image(false);
         Check.due("32: goes again", x.planned(), 2);
         Check.due("32: best", x.best(), 2);
+        x.last(0, 0, -1);
+        x.last(0, 4, 0);
+        x.last(1, 5, 3);
+        x.last(2, 0, 4);
+        x.last(3, 0, 6);
+        x.plan(5, 3, 4);
+        x.closed(4, 2, true);
+        x.image(true);
+        Check.due("32: planned", x.planned(), 3);
+        x.closed(4, 3, true);
+        Check.due("32: closed", x.planned(), 0);
+        x.image(false);
+        Check.due("32: open again", x.planned(), 3);
+        x.plan(5, 3, -1);
+        x.image(false);
+        Check.due("32: goes again", x.planned(), 3);
     }
 
     private static void notTheTapeNorTheFault() {
@@ -163,6 +214,8 @@ public final class ImageTest {
     public static void main(String[] args) {
         goneBackTo();
         namesAreComparedAnew();
+        voidsComeBack();
+        roundComesBack();
         planAndClosed();
         notTheTapeNorTheFault();
         Check.close("ImageTest");

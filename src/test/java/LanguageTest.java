@@ -54,7 +54,7 @@ public final class LanguageTest {
 
     private static final Set<String> LIBRARY = Set.of(
             "java.lang.String.length", "java.lang.String.charAt", "java.lang.String.indexOf", "java.lang.Math.min",
-            "java.lang.Math.max", "java.lang.Math.abs", "java.lang.Long.bitCount", "java.lang.Long.numberOfTrailingZeros",
+            "java.lang.Math.max", "java.lang.Math.abs", "java.lang.Math.floorMod", "java.lang.Long.bitCount", "java.lang.Long.numberOfTrailingZeros",
             "java.lang.System.arraycopy", "java.util.Arrays.fill", "java.lang.Object.<init>");
 
     private static void face() {

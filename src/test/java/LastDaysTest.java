@@ -19,6 +19,7 @@ public final class LastDaysTest {
             Check.due("26: looked at", x.look(30 + i), 11 - i);
         }
         Check.due("26: another one has it", x.last(0, 0, 10), false);
+        Check.due("26: another one has it", x.last(0, 4, 11), false);
         Check.due("26: its own again", x.last(0, 0, 11), true);
         Check.due("26: none", x.last(0, 1, -1), true);
         Check.due("26: none twice", x.last(0, 2, -1), true);
@@ -45,6 +46,8 @@ public final class LastDaysTest {
         Check.due("26: counters 0", x.last(3, 0, 0), false);
         Check.due("26: counters 7", x.last(3, 0, 7), false);
         Check.due("26: looked at", x.look(51), 6);
+        Check.due("26: counters 1", x.last(3, 0, 1), true);
+        Check.due("26: days 1", x.last(2, 0, 1), true);
         Check.due("26: another what", x.last(4, 0, 1), false);
         Check.due("26: another what", x.last(-1, 0, 1), false);
     }
@@ -71,6 +74,7 @@ public final class LastDaysTest {
         CountedTwice x = town(5, 3);
         x.last(1, 0, 2);
         x.last(1, 1, 4);
+        Check.due("29: nobody is told to go at first", x.planned(), 0);
         x.plan(0, 0, 0);
         x.plan(1, 0, 0);
         x.plan(0, 1, 1);
@@ -165,6 +169,11 @@ public final class LastDaysTest {
         x.last(2, 0, 1);
         x.last(3, 0, 4);
         Check.due("30: four of them", x.best(), 36);
+        x.last(3, 0, 1);
+        x.last(1, 0, 1);
+        Check.due("30: one of 45", x.best(), 1);
+        x.last(2, 0, 4);
+        Check.due("30: four days, one of them each", x.best(), 4);
     }
 
     public static void main(String[] args) {

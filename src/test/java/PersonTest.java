@@ -10,6 +10,22 @@ public final class PersonTest {
         Check.due("17: houses of " + p, x.person(p, 3), houses);
     }
 
+    private static void askedFirst() {
+        CountedTwice x = new CountedTwice();
+        x.house(0, 0, 0);
+        Check.entry(x, "a", 0, 0, 0, 0, 0, 0);
+        Check.due("17: asked first", x.person(0, 0), 1);
+        Check.text(x, SAME, "like when 1=1;");
+        Check.entry(x, "b", 1, 0, 0, 0, 0, 0);
+        Check.due("17: and behind an entry", x.person(0, 0), 2);
+        x.voids(0);
+        Check.due("18: and behind a void", x.table(0, 1), 1);
+        x.view(1);
+        Check.due("14: and behind a view", x.of(0, 8), 0);
+        x.view(2);
+        Check.due("19: and behind a view", x.ends(1), 1);
+    }
+
     private static CountedTwice chain() {
         CountedTwice x = new CountedTwice();
         x.house(0, 0, 0);
@@ -138,6 +154,11 @@ public final class PersonTest {
         Check.text(x, SAME, "like when ages=1;");
         Check.due("19: 10 and 11 and 12 and 13 and 14 are one, who is both", x.ends(1), 3);
         Check.due("19: both can't be with others", x.ends(0), 3);
+        Check.text(x, SAME, "");
+        Check.text(x, MAYBE, "like when ages=2;");
+        Check.due("19: three couples", x.ends(0), 4);
+        Check.text(x, MAYBE, "");
+        Check.due("19: none any more", x.ends(0), 7);
         Check.due("19: another what", x.ends(2), -1);
         Check.due("19: another what", x.ends(-1), -1);
     }
@@ -159,13 +180,58 @@ public final class PersonTest {
         person(x, 0, 120, 0, 2, 1);
     }
 
+    /** The secret ones have ages 2, 4, .. 118; the open ones 3, 5, .. 117, and at last 1, for whom all must change. */
+    private static void allChange(boolean openFirst) {
+        CountedTwice x = new CountedTwice();
+        x.house(0, 0, 0);
+        for (int round = 0; round < 2; round++) {
+            boolean open = openFirst == (round == 0);
+            for (int age = open ? 3 : 2; age <= 118; age += 2) {
+                Check.entry(x, "x", open ? 0 : 1, 0, 0, 0, 0, age);
+            }
+            if (open) {
+                Check.entry(x, "x", 0, 0, 0, 0, 0, 1);
+            }
+        }
+        Check.text(x, MAYBE, "like when ages=1;");
+        Check.due("19: all change", x.ends(0), 59);
+        Check.due("19: the most", x.ends(1), 118);
+        Check.text(x, MAYBE, "like when ages=1 and not ages=1;");
+        Check.due("19: none", x.ends(0), 118);
+        Check.text(x, SAME, "like when ages=117;");
+        Check.due("15: the last pair, and then the first by the other text", x.look(5), 117);
+        Check.text(x, SAME, "like when ages=2;");
+        Check.text(x, MAYBE, "like when ages>2;");
+        Check.due("17: the even ages and the odd ones", x.look(5), 2);
+        Check.due("19: which may be one", x.ends(0), 1);
+    }
+
+    /** Two texts remembered side by side: no pair of one is taken for a pair of the other. */
+    private static void pairsOfBothTexts() {
+        CountedTwice x = new CountedTwice();
+        x.house(0, 0, 0);
+        for (int e = 0; e < 120; e++) {
+            Check.entry(x, "x", 0, 0, 0, 0, 0, e);
+        }
+        Check.text(x, SAME, "like when ages<500;");
+        Check.text(x, MAYBE, "like when ages>500;");
+        for (int e = 0; e < 40; e++) {
+            Check.due("15: same", x.alike(119, 118 - e, SAME), 1);
+            Check.due("15: not maybe", x.alike(e + 1, e / 2, MAYBE), 0);
+        }
+    }
+
     public static void main(String[] args) {
+        askedFirst();
         persons();
         gapsMatter();
         table();
         missed();
         ends();
         full();
+        allChange(true);
+        allChange(false);
+        pairsOfBothTexts();
         Check.close("PersonTest");
     }
 }

@@ -81,6 +81,33 @@ public final class TextTest {
         Check.faulty(x, 2, "home away when 1=1;", 1, 5);
     }
 
+    /** What was on the tape behind its end is no part of a word or a number. */
+    private static void theEndCuts() {
+        CountedTwice x = new CountedTwice();
+        Check.tape(x, "like when days      ");
+        x.end(13);
+        Check.due("9: 'day' is no keyword here", x.text(0), -1);
+        Check.due("10: its place", x.fault(1), 10);
+        Check.tape(x, "like when 1=1;;     ");
+        x.end(14);
+        Check.due("9: one line", x.text(0), 1);
+        Check.tape(x, "like                ");
+        x.end(3);
+        Check.due("9: 'lik'", x.text(0), -1);
+        Check.due("10: its place", x.fault(1), 0);
+    }
+
+    private static void fullTape() {
+        CountedTwice x = new CountedTwice();
+        String all = "like when " + repeat("1=1 or ", 55) + "1=1;;";
+        Check.due("the text has 400 signs", all.length(), 400);
+        Check.faulty(x, 0, all, 1, 399);
+        Check.good(x, 0, all.substring(0, 399) + " ", 1);
+        Check.faulty(x, 0, repeat("(", 400), 1, 0);
+        Check.faulty(x, 0, "like when 1" + repeat("+1", 194) + "+", 1, 400);
+        Check.good(x, 2, "home when 1" + repeat("*1", 193) + "=1;", 1);
+    }
+
     private static void parts() {
         CountedTwice x = new CountedTwice();
         Check.faulty(x, 0, "like when ages/0=1;", 2, 15);
@@ -132,6 +159,8 @@ public final class TextTest {
     public static void main(String[] args) {
         goodOnes();
         misplaced();
+        theEndCuts();
+        fullTape();
         parts();
         tooMuch();
         staysAsItWas();
