@@ -134,6 +134,16 @@ public final class LastDaysTest {
         Check.due("30: without its street", x.best(), 3);
     }
 
+    private static void theGreaterStreet() {
+        for (int first = 0; first < 2; first++) {
+            CountedTwice x = first == 0 ? town(5, 3) : town(3, 5);
+            x.last(1, 0, 4);
+            Check.due("30: he goes where more are", x.best(), 4);
+            x.closed(first, 0, true);
+            Check.due("30: or where he can", x.best(), 3);
+        }
+    }
+
     /** What takes most first ends badly: 3 + 3 into 6, 2 + 2 + 2 into the other 6, not 3 + 2 into one of them. */
     private static void noGreed() {
         CountedTwice x = town(6, 6);
@@ -182,6 +192,7 @@ public final class LastDaysTest {
         planned();
         nineAtMost();
         best();
+        theGreaterStreet();
         noGreed();
         full();
         Check.close("LastDaysTest");

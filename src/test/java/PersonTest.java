@@ -206,6 +206,22 @@ public final class PersonTest {
         Check.due("19: which may be one", x.ends(0), 1);
     }
 
+    /** 10 makes 12 change, then 51 makes 10 change, who makes 8 change. */
+    private static void changeTwice() {
+        CountedTwice x = new CountedTwice();
+        x.house(0, 0, 0);
+        int[] open = {8, 12, 10, 51};
+        int[] secret = {11, 9, 13, 7};
+        for (int age : open) {
+            Check.entry(x, "x", 0, 0, 0, 0, 0, age);
+        }
+        for (int age : secret) {
+            Check.entry(x, "x", 1, 0, 0, 0, 0, age);
+        }
+        Check.text(x, MAYBE, "like when ages=1 or ages=40;");
+        Check.due("19: four couples", x.ends(0), 4);
+    }
+
     /** Two texts remembered side by side: no pair of one is taken for a pair of the other. */
     private static void pairsOfBothTexts() {
         CountedTwice x = new CountedTwice();
@@ -231,6 +247,7 @@ public final class PersonTest {
         full();
         allChange(true);
         allChange(false);
+        changeTwice();
         pairsOfBothTexts();
         Check.close("PersonTest");
     }
