@@ -195,7 +195,7 @@ public final class CountedTwice {
             return false;
         }
         for (int i = 0; i < length; i++) {
-            if (!isLetter(tape[i])) {
+            if (!isSmallLetter(tape[i])) {
                 return false;
             }
         }
@@ -489,8 +489,13 @@ public final class CountedTwice {
         return v >= 0 && v < bound;
     }
 
-    private static boolean isLetter(int sign) {
+    private static boolean isSmallLetter(int sign) {
         return sign >= 'a' && sign <= 'z';
+    }
+
+    /** No keyword has a capital, but one that stands with other letters belongs to their token. */
+    private static boolean isLetter(int sign) {
+        return isSmallLetter(sign) || sign >= 'A' && sign <= 'Z';
     }
 
     private static boolean isDigit(int sign) {

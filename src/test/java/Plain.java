@@ -248,7 +248,7 @@ final class Plain {
                 return "";
             }
             int to = at + 1;
-            for (String sort : List.of("abcdefghijklmnopqrstuvwxyz", "0123456789")) {
+            for (String sort : List.of("abcdefghijklmnopqrstuvwxyzABCDEFGHIJKLMNOPQRSTUVWXYZ", "0123456789")) {
                 if (sort.indexOf(s.charAt(at)) >= 0) {
                     while (to < s.length() && sort.indexOf(s.charAt(to)) >= 0) {
                         to++;

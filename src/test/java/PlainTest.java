@@ -8,7 +8,7 @@ public final class PlainTest {
     private static final String[] LIKE_VALUES = {"letters", "first", "ages", "near", "days", "book", "house"};
     private static final String[] HOME_VALUES = {"hour", "day", "street", "number", "kind"};
     private static final String[] STRAY = {"like", "home", "away", "when", "or", "and", "not", "(", ")", ";", "<", "=", ">",
-        "+", "-", "*", "/", "/0", "/ 000", "/ 0000 ", "0", "12345", "7", "lik", "likes", "day", "days", "A", ".", "\n", "\t", "house", "hour", "\u00e9"};
+        "+", "-", "*", "/", "/0", "/ 000", "/ 0000 ", "0", "12345", "7", "lik", "likes", "day", "days", "A", "Z", "likeX", "Xor ", ".", "\n", "\t", "house", "hour", "\u00e9"};
 
     private static final int THEME_LAST = 0;
     private static final int THEME_ROUND = 1;

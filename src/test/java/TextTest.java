@@ -81,6 +81,57 @@ public final class TextTest {
         Check.faulty(x, 2, "home away when 1=1;", 1, 5);
     }
 
+    private static final String[] LIKE_VALUES = {"letters", "first", "ages", "near", "days", "book", "house"};
+    private static final String[] HOME_VALUES = {"hour", "day", "street", "number", "kind"};
+
+    /** Behind what stands ahead of it a keyword, with a capital letter at each place of it, is none as a whole. */
+    private static void noKeyword(int k, String ahead, String keyword, String behind) {
+        for (char capital : new char[] {'A', 'X', 'Z'}) {
+            for (int i = 0; i <= keyword.length(); i++) {
+                String put = keyword.substring(0, i) + capital + keyword.substring(i);
+                Check.faulty(new CountedTwice(), k, ahead + put + behind, 1, ahead.length());
+                if (i < keyword.length()) {
+                    String instead = keyword.substring(0, i) + capital + keyword.substring(i + 1);
+                    Check.faulty(new CountedTwice(), k, ahead + instead + behind, 1, ahead.length());
+                }
+            }
+        }
+    }
+
+    private static void lettersTogether() {
+        for (int k = 0; k < 3; k++) {
+            for (String beginning : k < 2 ? new String[] {"like"} : new String[] {"home", "away"}) {
+                noKeyword(k, "", beginning, "");
+                noKeyword(k, "", beginning, " when 1=1;");
+                noKeyword(k, repeat(beginning + " when 1=1;", 16), beginning, " when 1=1;");
+                noKeyword(k, beginning + " ", "when", " 1=1;");
+                noKeyword(k, beginning + " when 1=1 ", "or", " 1=1;");
+                noKeyword(k, beginning + " when 1=1", "and", " 1=1;");
+                noKeyword(k, beginning + " when ", "not", " 1=1;");
+                noKeyword(k, beginning + " when " + repeat("not ", 8), "not", " 1=1;");
+                for (String value : k < 2 ? LIKE_VALUES : HOME_VALUES) {
+                    noKeyword(k, beginning + " when ", value, "=1;");
+                    noKeyword(k, beginning + " when 1=", value, ";");
+                }
+            }
+        }
+        CountedTwice x = new CountedTwice();
+        Check.faulty(x, 0, "like when 1X=1;", 1, 11);
+        Check.faulty(x, 0, "like when X1=1;", 1, 10);
+        Check.faulty(x, 0, "like when 1/0X=1;", 2, 12);
+        Check.faulty(x, 0, "like when 1=1;X", 1, 14);
+    }
+
+    /** What stands just beside the letters, or above 127, is none: what is ahead of it ends there. */
+    private static void noLetters() {
+        CountedTwice x = new CountedTwice();
+        for (int sign : new int[] {'@', '[', '`', '{', '_', '\'', 127, 128, 193, 218, 225, 250, 255}) {
+            Check.faulty(x, 0, "like" + (char) sign, 1, 4);
+            Check.faulty(x, 0, "like when" + (char) sign + "1=1;", 1, 9);
+            Check.faulty(x, 2, "home when hour" + (char) sign + "=1;", 1, 14);
+        }
+    }
+
     /** What was on the tape behind its end is no part of a word or a number. */
     private static void theEndCuts() {
         CountedTwice x = new CountedTwice();
@@ -95,6 +146,10 @@ public final class TextTest {
         x.end(3);
         Check.due("9: 'lik'", x.text(0), -1);
         Check.due("10: its place", x.fault(1), 0);
+        Check.tape(x, "likeX               ");
+        x.end(4);
+        Check.due("9: 'like' alone", x.text(0), -1);
+        Check.due("10: its place", x.fault(1), 4);
     }
 
     private static void fullTape() {
@@ -159,6 +214,8 @@ public final class TextTest {
     public static void main(String[] args) {
         goodOnes();
         misplaced();
+        lettersTogether();
+        noLetters();
         theEndCuts();
         fullTape();
         parts();
