@@ -4,6 +4,7 @@ import java.nio.charset.StandardCharsets;
 final class Check {
     private static int asked = 0;
     private static int wrong = 0;
+    private static String sentence = "";
 
     private Check() {
     }
@@ -13,9 +14,49 @@ final class Check {
         if (got != want) {
             wrong++;
             if (wrong <= 50) {
-                System.out.println(call + " answered " + got + ", due is " + want);
+                System.out.println(call + " answered " + got + ", due is " + want + sentence);
             }
         }
+    }
+
+    /** The words of the document that the next answers are about: SentenceTest finds them there, and misses none. */
+    static void says(String words) {
+        sentence = " [" + words + "]";
+    }
+
+    /** A call with one argument left open. */
+    interface Ask {
+        long at(int v);
+    }
+
+    /** What can't be where low .. high can: the nearest on both sides, the ends of int, and what a narrower type takes for good. */
+    static int[] outside(int low, int high) {
+        return new int[] {low - 1, high + 1, Integer.MIN_VALUE, Integer.MAX_VALUE, low - 256, high + 256, low + 65536,
+            low - 65536, low + (1 << 30), Integer.MIN_VALUE + high};
+    }
+
+    /** Asks for each argument outside low .. high. */
+    static void refused(String call, int low, int high, Ask ask, long want) {
+        for (int v : outside(low, high)) {
+            due(call + " with " + v, ask.at(v), want);
+        }
+    }
+
+    static long bit(boolean is) {
+        return is ? 1L : 0L;
+    }
+
+    static String repeat(String s, int n) {
+        return s.repeat(n);
+    }
+
+    /** So many houses in one street, all missed. */
+    static CountedTwice houses(int n) {
+        CountedTwice x = new CountedTwice();
+        for (int h = 0; h < n; h++) {
+            x.house(0, h, 0);
+        }
+        return x;
     }
 
     static void due(String call, boolean got, boolean want) {

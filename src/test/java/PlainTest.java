@@ -10,6 +10,10 @@ public final class PlainTest {
     private static final String[] STRAY = {"like", "home", "away", "when", "or", "and", "not", "(", ")", ";", "<", "=", ">",
         "+", "-", "*", "/", "/0", "/ 000", "/ 0000 ", "0", "12345", "7", "lik", "likes", "day", "days", "A", "Z", "likeX", "Xor ", ".", "\n", "\t", "house", "hour", "\u00e9"};
 
+    /** An object is used for so many calls; a full text with its faults takes at most twenty-five. */
+    private static final int CALLS_MOST = 512;
+    private static final int DEAREST = 25;
+
     private static final int THEME_LAST = 0;
     private static final int THEME_ROUND = 1;
     private static final int THEME_TEXT = 2;
@@ -421,7 +425,7 @@ public final class PlainTest {
         int textShare = theme == THEME_TEXT ? 7 : 4;
         // One run in ten is for full books, which take most of the calls that an object has.
         int entryShare = random.nextInt(10) == 0 ? 60 : 8 + random.nextInt(12);
-        while (log.size() < 500 && !failed) {
+        while (log.size() < CALLS_MOST - DEAREST && !failed) {
             int sort = random.nextInt(entryShare + 48);
             if (sort < textShare) {
                 text();
@@ -434,6 +438,9 @@ public final class PlainTest {
             } else {
                 entry();
             }
+        }
+        while (log.size() < CALLS_MOST && !failed) {
+            ask();
         }
     }
 
