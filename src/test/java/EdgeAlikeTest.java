@@ -109,6 +109,15 @@ public final class EdgeAlikeTest {
         is(x, "near", 0);
         x.gap(4, 5, 1);
         Check.due("and by a later one", x.alike(0, 1, 3), 1);
+        Check.text(x, SAME, "like when near=1;");
+        Check.text(x, MAYBE, "like when near=2;");
+        Check.due("alike by that gap", x.alike(0, 1, SAME), 1);
+        Check.due("one person by that gap", x.look(5), 1);
+        Check.due("not by the other text", x.alike(0, 1, MAYBE), 0);
+        x.gap(5, 4, 2);
+        Check.due("not alike by the next one", x.alike(0, 1, SAME), 0);
+        Check.due("two persons by the next one", x.look(5), 2);
+        Check.due("but by the other text", x.alike(0, 1, MAYBE), 1);
     }
 
     private static void book() {
@@ -179,6 +188,17 @@ public final class EdgeAlikeTest {
         so("not 1=1 or 1=1", 1);
         so("not(1=1 or 1=1)", 0);
         so("not not 1=1", 1);
+        so("not 1<2", 0);
+        so("not 2<1", 1);
+        so("not 2>1", 0);
+        so("not 1>2", 1);
+        so("1<2 and 1=1", 1);
+        so("2>1 and 1=1", 1);
+        so("1<2 and 2>1", 1);
+        so("1=2 or 1<2", 1);
+        so("1<2 or 1=2", 1);
+        so("1<2 and 2<1", 0);
+        so("1=2 or 2<1", 0);
         so("1<2", 1);
         so("2<2", 0);
         so("3<2", 0);

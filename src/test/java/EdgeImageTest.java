@@ -64,7 +64,9 @@ public final class EdgeImageTest {
         back("the view", x -> Check.bit(x.view(1)), x -> x.look(4));
         back("what is known by the view", x -> Check.bit(x.view(1)), x -> x.look(2));
         back("steps", x -> x.step(1, 0, 900), x -> x.look(7));
-        back("a step's house", x -> x.step(0, 1, 0), x -> x.round(0, 0) + 10 * x.look(7));
+        back("the first step's minute", x -> stepsAnew(x, 0, 90, 1), x -> x.round(0, 0));
+        back("a step's house", x -> stepsAnew(x, 0, 0, 2), x -> x.round(0, 1));
+        back("a step's minute", x -> stepsAnew(x, 0, 96, 1), x -> x.round(0, 0));
         back("slots", x -> Check.bit(x.last(0, 0, -1)), x -> x.look(30));
         back("strengths", x -> Check.bit(x.last(1, 5, 9)), x -> x.look(45));
         back("days", x -> Check.bit(x.last(2, 0, 4)), x -> x.look(50));
@@ -73,6 +75,93 @@ public final class EdgeImageTest {
         back("closed, for the best", x -> Check.bit(x.closed(0, 0, true)), x -> x.best());
         back("opened", x -> Check.bit(x.closed(1, 0, false)), x -> x.best());
         back("the plan", x -> Check.bit(x.plan(0, 0, -1)), x -> x.planned());
+        back("a gap of the last streets", x -> Check.bit(x.gap(11, 10, 6)), x -> x.way(6, 7, 0));
+        back("the last plan", x -> Check.bit(x.plan(5, 3, 4)), EdgeImageTest::plannedOfAll);
+        back("the last slot closed", x -> Check.bit(x.closed(4, 3, true)), EdgeImageTest::bestOfTheLastSlot);
+    }
+
+    /** As many steps as were told, some of them others. */
+    private static long stepsAnew(CountedTwice x, int house, int minute, int second) {
+        x.step(0, house, minute);
+        x.step(1, second, 100);
+        return x.step(2, 1, 600);
+    }
+
+    /** Days, counters and strengths go back with the image, or stay as they are here. */
+    private static long plannedOfAll(CountedTwice x) {
+        x.last(0, 1, -1);
+        x.last(0, 4, 1);
+        x.last(1, 5, 1);
+        x.last(2, 0, 4);
+        x.last(3, 0, 6);
+        return x.planned();
+    }
+
+    private static long bestOfTheLastSlot(CountedTwice x) {
+        x.last(0, 0, -1);
+        x.last(0, 1, -1);
+        x.last(0, 4, 1);
+        x.last(1, 0, 1);
+        for (int day = 0; day < 3; day++) {
+            x.closed(4, day, true);
+        }
+        x.last(2, 0, 4);
+        return x.best();
+    }
+
+    /** Texts that are empty, short and long, each changed to each other one behind the image. */
+    private static void eachText() {
+        String[] likes = {"", "like when 1=1;", "like when 1=2;", "like when 1=2;like when 1=2 or 3=3 and 2+2=4;"};
+        String[] homes = {"", "away when 1=1;", "home when 1=1;away when 1=1;", "away when 1=2;away when 1=2 or 3=3 and 2+2=4;"};
+        for (int k = 0; k < 3; k++) {
+            String[] texts = k == 2 ? homes : likes;
+            for (String then : texts) {
+                for (String now : texts) {
+                    CountedTwice x = told();
+                    Check.text(x, k, then);
+                    long was = means(x, k);
+                    x.image(true);
+                    Check.text(x, k, now);
+                    means(x, k);
+                    x.image(false);
+                    Check.due("text " + k + " '" + then + "' behind '" + now + "'", means(x, k), was);
+                }
+            }
+        }
+    }
+
+    private static long means(CountedTwice x, int k) {
+        return k == 2 ? x.home(0, 0, 0) + 10 * x.counter(0, 2) : x.alike(0, 1, k) + 10 * x.ends(k == 0 ? 1 : 0);
+    }
+
+    /** Numbers that were given to others behind the image are given anew: nothing of the others is left. */
+    private static void numbersAnew() {
+        CountedTwice x = Check.houses(1);
+        Check.text(x, 0, "like when letters=0;");
+        Check.text(x, 1, "like when letters=1;");
+        Check.entry(x, "ana", 0, 0, 0, 0, 0, 0);
+        x.image(true);
+        Check.entry(x, "ana", 1, 10, 0, 99, 1439, 119);
+        Check.due("same", x.alike(0, 1, 0), 1);
+        Check.due("not maybe", x.alike(0, 1, 1), 0);
+        x.house(11, 999, 9);
+        Check.due("one is missed", x.look(21), 1);
+        x.image(false);
+        Check.due("no second entry", x.of(1, 0), -1);
+        Check.due("no second house", x.way(0, 1, 0), -1);
+        Check.due("one person", x.person(0, 0), 1);
+        Check.entry(x, "an", 1, 1, 0, 1, 1, 1);
+        x.house(0, 7, 1);
+        int[] facts = {1, 1, 0, 1, 1, 1, 2, 1, 1, -1, 0, 13, -1};
+        for (int what = 0; what < facts.length; what++) {
+            Check.due("of(1, " + what + ")", x.of(1, what), facts[what]);
+        }
+        Check.due("not the same", x.alike(0, 1, 0), 0);
+        Check.due("but maybe", x.alike(0, 1, 1), 1);
+        Check.due("near", x.way(0, 1, 0), 7);
+        Check.due("none is missed there", x.look(21), 0);
+        Check.due("two persons", x.look(5), 2);
+        Check.due("or one", x.ends(0), 1);
     }
 
     private interface Call {
@@ -88,6 +177,8 @@ public final class EdgeImageTest {
         x.house(1, 0, 0);
         x.house(1, 1, 0);
         x.house(1, 2, 0);
+        x.house(10, 0, 0);
+        x.house(11, 0, 0);
         Check.entry(x, "ana", 0, 0, 0, 0, 0, 0);
         Check.entry(x, "bob", 1, 0, 1, 0, 0, 0);
         x.step(0, 0, 0);
@@ -214,6 +305,8 @@ public final class EdgeImageTest {
         none();
         moreThanOnce();
         eachThing();
+        eachText();
+        numbersAnew();
         notTheTape();
         notTheFault();
         full();

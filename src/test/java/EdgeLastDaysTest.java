@@ -1,3 +1,7 @@
+import java.util.HashSet;
+import java.util.Random;
+import java.util.Set;
+
 /** The boundaries of the missed houses, the last days and the lots, and of promises 26 to 31, sentence by sentence. */
 public final class EdgeLastDaysTest {
     /** So many houses in each street, which has the slot of its number. */
@@ -363,6 +367,75 @@ public final class EdgeLastDaysTest {
         Check.due("without its street", x.best(), 0);
         x.last(0, 4, 0);
         Check.due("by another slot, which isn't closed", x.best(), 6);
+        x = town(6, 5, 9);
+        int[] strengths = {3, 3, 1};
+        for (int c = 0; c < 3; c++) {
+            x.last(1, c, strengths[c]);
+        }
+        x.last(3, 0, 3);
+        x.closed(2, 0, true);
+        Check.due("all three see what they can in the two others", x.best(), 7);
+    }
+
+    /** All that any plan leaves, a decimal digit for each slot: every counter goes to each slot, or stays. */
+    private static int mostByAll(int[] missed, int[] strengths, int days, boolean[][] closed) {
+        int all = 0;
+        int start = 0;
+        for (int slot = missed.length - 1; slot >= 0; slot--) {
+            start = 10 * start + missed[slot];
+            all += missed[slot];
+        }
+        Set<Integer> lefts = new HashSet<>(Set.of(start));
+        for (int turn = 0; turn < days * strengths.length; turn++) {
+            Set<Integer> next = new HashSet<>(lefts);
+            for (int left : lefts) {
+                int weight = 1;
+                for (int slot = 0; slot < missed.length; slot++) {
+                    int here = left / weight % 10;
+                    if (!closed[slot][turn / strengths.length]) {
+                        next.add(left - weight * Math.min(here, strengths[turn % strengths.length]));
+                    }
+                    weight *= 10;
+                }
+            }
+            lefts = next;
+        }
+        int least = all;
+        for (int left : lefts) {
+            int sum = 0;
+            for (int rest = left; rest > 0; rest /= 10) {
+                sum += rest % 10;
+            }
+            least = Math.min(least, sum);
+        }
+        return all - least;
+    }
+
+    private static void bestByAll() {
+        Random random = new Random(11);
+        for (int i = 0; i < 1000; i++) {
+            int[] missed = new int[2 + random.nextInt(i < 980 ? 2 : 4)];
+            for (int slot = 0; slot < missed.length; slot++) {
+                missed[slot] = 5 + random.nextInt(5);
+            }
+            int[] strengths = new int[1 + random.nextInt(6)];
+            int days = 1 + random.nextInt(4);
+            CountedTwice x = town(missed);
+            x.last(2, 0, days);
+            x.last(3, 0, strengths.length);
+            for (int c = 0; c < strengths.length; c++) {
+                strengths[c] = random.nextInt(random.nextInt(3) == 0 ? 10 : 5);
+                x.last(1, c, strengths[c]);
+            }
+            boolean[][] closed = new boolean[5][4];
+            for (int slot = 0; slot < 5; slot++) {
+                for (int d = 0; d < 4; d++) {
+                    closed[slot][d] = random.nextInt(3) == 0;
+                    x.closed(slot, d, closed[slot][d]);
+                }
+            }
+            Check.due("best by all plans, town " + i, x.best(), mostByAll(missed, strengths, days, closed));
+        }
     }
 
     private static void lots() {
@@ -423,6 +496,7 @@ public final class EdgeLastDaysTest {
         together();
         best();
         bestRoundClosed();
+        bestByAll();
         lots();
         noSuchLots();
         Check.close("EdgeLastDaysTest");

@@ -118,6 +118,39 @@ public final class EdgeTableTest {
         couples(new int[] {16, 14, 12, 10}, new int[] {11, 13, 15, 17}, "like when ages=1;", 4);
         couples(new int[] {10, 20, 30}, new int[] {11, 11, 11}, "like when ages=1;", 1);
         couples(new int[] {10, 10, 10, 40}, new int[] {11, 41, 41, 9}, "like when ages=1;", 3);
+        couples(new int[] {8, 12, 10, 51}, new int[] {11, 9, 13, 7}, "like when ages=1 or ages=40;", 4);
+        couples(new int[] {8, 12, 10, 51, 91}, new int[] {11, 9, 13, 7}, "like when ages=1 or ages=40;", 4);
+    }
+
+    /** All the ways to choose couples, one open person behind the other. */
+    private static int mostCouples(int[] open, int[] secret, int at, int taken, int far) {
+        if (at == open.length) {
+            return 0;
+        }
+        int most = mostCouples(open, secret, at + 1, taken, far);
+        for (int q = 0; q < secret.length; q++) {
+            int apart = Math.abs(open[at] - secret[q]);
+            if ((taken >> q & 1) == 0 && (apart == 1 || apart == far)) {
+                most = Math.max(most, 1 + mostCouples(open, secret, at + 1, taken | 1 << q, far));
+            }
+        }
+        return most;
+    }
+
+    private static void allCouples() {
+        java.util.Random random = new java.util.Random(7);
+        for (int i = 0; i < 300; i++) {
+            int[] open = new int[1 + random.nextInt(7)];
+            int[] secret = new int[1 + random.nextInt(7)];
+            int far = 3 + random.nextInt(6);
+            for (int p = 0; p < open.length; p++) {
+                open[p] = random.nextInt(18);
+            }
+            for (int q = 0; q < secret.length; q++) {
+                secret[q] = random.nextInt(18);
+            }
+            couples(open, secret, "like when ages=1 or ages=" + far + ";", mostCouples(open, secret, 0, 0, far));
+        }
     }
 
     private static void theEntriesOfCouples() {
@@ -439,6 +472,7 @@ public final class EdgeTableTest {
         streetOfTheLeast();
         table();
         ends();
+        allCouples();
         theEntriesOfCouples();
         whatOfEnds();
         luck();

@@ -25,6 +25,7 @@ public final class RoomTest {
         return x;
     }
 
+    /** With those of full() these are less than the 512 calls of an object. */
     private static void dearCalls(CountedTwice x, int[] same) {
         for (int w = 0; w < same.length; w += 5) {
             x.feed(same[w], same[w + 1], same[w + 2], same[w + 3], same[w + 4]);
@@ -45,7 +46,7 @@ public final class RoomTest {
         x.last(2, 0, 4);
         x.last(3, 0, 6);
         x.image(true);
-        for (int i = 0; i < 8; i++) {
+        for (int i = 0; i < 3; i++) {
             x.view(112 + i);
             x.ends(0);
             x.table(-1, 3);
@@ -86,11 +87,11 @@ public final class RoomTest {
         long used = allocated() - before;
         Check.isSo("a run's objects take " + used + " bytes", used < OBJECT_BYTES);
         long start = System.nanoTime();
-        for (int i = 0; i < 20; i++) {
+        for (int i = 0; i < 60; i++) {
             dearCalls(full(), same);
         }
         long seconds = (System.nanoTime() - start) / 1_000_000_000L;
-        Check.isSo("twenty dear runs take " + seconds + " s", seconds < 60);
+        Check.isSo("sixty dear runs take " + seconds + " s", seconds < 60);
         Check.close("RoomTest");
     }
 }
