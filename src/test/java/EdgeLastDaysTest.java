@@ -438,6 +438,75 @@ public final class EdgeLastDaysTest {
         }
     }
 
+    /** By what each slot was given so far, cut at its houses: all choices of each counter and day, staying too. */
+    private static int mostBySums(int[] missed, int[] strengths, int days, boolean[][] closed) {
+        int[] weights = new int[5];
+        int all = 1;
+        for (int slot = 0; slot < 5; slot++) {
+            weights[slot] = all;
+            all *= Math.min(9, missed[slot]) + 1;
+        }
+        boolean[] reached = new boolean[all];
+        reached[0] = true;
+        for (int go = 0; go < days * strengths.length; go++) {
+            boolean[] next = reached.clone();
+            for (int sums = 0; sums < all; sums++) {
+                for (int slot = 0; reached[sums] && slot < 5; slot++) {
+                    int most = Math.min(9, missed[slot]);
+                    int here = sums / weights[slot] % (most + 1);
+                    int then = Math.min(most, here + strengths[go % strengths.length]);
+                    if (!closed[slot][go / strengths.length]) {
+                        next[sums + (then - here) * weights[slot]] = true;
+                    }
+                }
+            }
+            reached = next;
+        }
+        int best = 0;
+        for (int sums = 0; sums < all; sums++) {
+            int seen = 0;
+            for (int slot = 0; slot < 5; slot++) {
+                seen += sums / weights[slot] % (Math.min(9, missed[slot]) + 1);
+            }
+            best = reached[sums] ? Math.max(best, seen) : best;
+        }
+        return best;
+    }
+
+    /** Towns with too many plans to go through one by one: five slots, all days, all counters. */
+    private static void bestOfGreatTowns() {
+        Check.says("BEST: the most that any plan sees.");
+        Random random = new Random(77);
+        for (int i = 0; i < 60; i++) {
+            CountedTwice x = new CountedTwice();
+            int[] missed = new int[5];
+            for (int slot = 0; slot < 5; slot++) {
+                missed[slot] = i % 3 == 0 ? 9 + random.nextInt(4) : random.nextInt(13);
+                for (int h = 0; h < missed[slot]; h++) {
+                    x.house(slot, h, 0);
+                }
+                x.last(0, slot, slot);
+            }
+            x.last(2, 0, 4);
+            x.last(3, 0, 6);
+            for (int turn = 0; turn < 5; turn++) {
+                int[] strengths = new int[6];
+                for (int c = 0; c < 6; c++) {
+                    strengths[c] = random.nextInt(turn < 3 ? 3 : 10);
+                    x.last(1, c, strengths[c]);
+                }
+                boolean[][] closed = new boolean[5][4];
+                for (int slot = 0; slot < 5; slot++) {
+                    for (int d = 0; d < 4; d++) {
+                        closed[slot][d] = random.nextInt(4) < turn - 1;
+                        x.closed(slot, d, closed[slot][d]);
+                    }
+                }
+                Check.due("best of great town " + i + ", " + turn, x.best(), mostBySums(missed, strengths, 4, closed));
+            }
+        }
+    }
+
     private static void lots() {
         Check.says("LOTS: of the MISSED HOUSES, in their order, k by DRAWS: of n left a DRAW of n, that one goes; as a set.");
         CountedTwice x = Check.houses(60);
@@ -497,6 +566,7 @@ public final class EdgeLastDaysTest {
         best();
         bestRoundClosed();
         bestByAll();
+        bestOfGreatTowns();
         lots();
         noSuchLots();
         Check.close("EdgeLastDaysTest");
